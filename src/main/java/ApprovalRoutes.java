@@ -545,7 +545,7 @@ public final class ApprovalRoutes {
         int longest = LACKING;
         int slowest = LACKING;
         for (int request = 0; request < now.sizes[REQUEST]; request++) {
-            if (endOf(request) == ENDS_APPROVED) {
+            if (isApprovedNow(request)) {
                 number++;
                 amounts += now.cell(REQUEST, request, AMOUNT);
                 int length = route.lastCell(STEP_DAY) - now.cell(REQUEST, request, DAY);
@@ -651,8 +651,8 @@ public final class ApprovalRoutes {
             case 6: return now.settings[PACE];
             case 7: return now.settings[WAIT];
             case 8: return now.sizes[REQUEST];
-            case 9: return countEnding(ENDS_RECALLED);
-            case 10: return countEnding(ENDS_STUCK);
+            case 9: return countRecalled();
+            case 10: return countStuck();
             case 11: return past.size;
             case 12: return tape.size;
             case 13: return keptShelves;
@@ -740,19 +740,30 @@ public final class ApprovalRoutes {
         return matter;
     }
 
-    private int endOf(int request) {
+    private boolean isApprovedNow(int request) {
         if (now.isRecalled(request)) {
-            return ENDS_RECALLED;
+            return false;
         }
         route.follow(matterOf(request));
-        return route.outcome(0);
+        return route.isApproved();
     }
 
-    private int countEnding(int end) {
+    private int countRecalled() {
         int number = 0;
         for (int request = 0; request < now.sizes[REQUEST]; request++) {
-            if (endOf(request) == end) {
+            if (now.isRecalled(request)) {
                 number++;
+            }
+        }
+        return number;
+    }
+
+    private int countStuck() {
+        int number = 0;
+        for (int request = 0; request < now.sizes[REQUEST]; request++) {
+            if (!now.isRecalled(request)) {
+                route.follow(matterOf(request));
+                number += route.isApproved() ? 0 : 1;
             }
         }
         return number;

@@ -33,6 +33,7 @@ public final class ModelTests {
     private final int span;
     private final int start;
     private final int highest;
+    private final int oddOneIn;
     private int calls;
     private boolean wrong;
 
@@ -43,6 +44,7 @@ public final class ModelTests {
         span = List.of(8, 30, 90, 1000).get(random.nextInt(4));
         start = random.nextInt(1001 - span);
         highest = List.of(20, 300, 9999).get(random.nextInt(3));
+        oddOneIn = random.nextInt(8) == 0 ? 4 : 60;
     }
 
     public static void main(String[] args) throws Exception {
@@ -103,7 +105,7 @@ public final class ModelTests {
     }
 
     private int drawn(char sign) {
-        if (random.nextInt(60) == 0) {
+        if (random.nextInt(oddOneIn) == 0) {
             return List.of(-2, -1, 0, 16, 12, 40, 1000, 999, 10000, Integer.MIN_VALUE, Integer.MAX_VALUE).get(random.nextInt(11));
         }
         switch (sign) {
