@@ -12,6 +12,7 @@ final class EdgesOfAnswers {
         power(s);
         rings(s);
         loads(s);
+        undoneOnes(s);
         busiest(s);
         approved(s);
         could(s);
@@ -156,9 +157,22 @@ final class EdgesOfAnswers {
         });
     }
 
+    /** What was undone or dropped must not be counted any more, though its numbers may still lie about. */
+    private static void undoneOnes(Sentences s) {
+        s.says(32, "STEPS of all REQUESTS that are not RECALLED which a PERSON does", t -> {
+            t.tell("post top 9 9 9;hold 0 1 0 999").due(0, "request", 9, 0, 0, 1, 0).dueRow("load", new int[] {1}, 1, 1, 0).due(0, "undo").dueRow("load", new int[] {1}, 0, 0, 0).dueRow("busiest", new int[0], -2, -2).dueRow("pillar", new int[0], -2, -2);
+            t.dueRow("approved", new int[0], 0, 0, -2, -2).due(0, "count", 10).due(0, "away", 1, 0, 999).due(0, "drop", 1, 0).due(1, "decides", 0, 0, -1, 0).due(0, "foe", 1, 0).due(0, "drop", 3, 0).due(1, "decides", 0, 0, -1, 0);
+            t.due(0, "stand", 1, 2, 0, 9, 9).due(0, "drop", 2, 0).due(0, "tangle", 0).due(0, "away", 1, 0, 999).due(-5, "decides", 0, 0, -1, 0).due(0, "drop", 0, 0).due(-4, "decides", 0, 0, -1, 0).due(0, "manned", 0, 0, 999, 0);
+        });
+    }
+
     private static void busiest(Sentences s) {
         s.says(33, "The PERSON with the most STEPS (as load()) (of several the least), what 0: which, 1: how many", t -> {
             busy(t).dueRow("busiest", new int[0], 7, 3).due(5, "request", 1, 1, 6, 5, 1).dueRow("busiest", new int[0], 3, 3).due(6, "request", 1, 0, 6, 5, 1).dueRow("busiest", new int[0], 7, 4);
+        });
+        s.says(33, "(of several the least)", t -> {
+            t.tell("post top 9 9 9;post top 9 9 9;post top 9 9 9;hold 0 0 0 999;hold 1 1 0 999;hold 2 15 0 999").due(0, "request", 9, 2, 0, 1, 0).dueRow("busiest", new int[0], 15, 1).due(1, "request", 9, 1, 1, 1, 0);
+            t.dueRow("busiest", new int[0], 1, 1).due(2, "request", 9, 0, 2, 1, 0).dueRow("busiest", new int[0], 0, 1).dueRow("pillar", new int[0], 0, 1).due(3, "request", 9, 1, 3, 1, 0).dueRow("busiest", new int[0], 1, 2).dueRow("pillar", new int[0], 1, 2);
         });
         s.says(33, "-2: there are no such STEPS", t -> {
             t.dueRow("busiest", new int[0], -2, -2).tell("post top 9 9 9").due(0, "request", 1, 0, 0, 1, 5).dueRow("busiest", new int[0], -2, -2).due(0, "hold", 0, 0, 6, 9).dueRow("busiest", new int[0], 0, 1);
@@ -199,6 +213,10 @@ final class EdgesOfAnswers {
             t.due(32785, "could", 0).due(101, "limit", 3, 0, 99).due(32769, "could", 0).due(99, "limit", 1, 0, 100).due(32771, "could", 0).due(1, "request", 9, 2, 1, 100, 4).due(3, "could", 1).due(2, "request", 9, 2, 1, 100, 6).due(3, "could", 2);
             t.due(3, "request", 0, 1, 0, 100, 5).due(2, "could", 3).due(4, "request", 9, 0, 2, 101, 5).due(0, "could", 4).due(5, "request", 9, 1, 5, 60, 5).due(6, "request", 9, 1, 5, 40, 5).due(3, "could", 6).due(7, "request", 9, 1, 5, 1, 5).due(0, "could", 7);
             t.due(0, "away", 1, 5, 5).due(1, "could", 6).due(0, "stand", 1, 8, 5, 5, 99).due(1, "could", 6).due(1, "stand", 1, 8, 5, 5, 100).due(1, "could", 6).due(1, "drop", 2, 0).due(257, "could", 6).due(1, "recall", 7, 5).due(0, "could", 7);
+        });
+        s.says(35, "at some POST from its own on upwards", t -> {
+            t.tell("post top 5 0 0;post0 0 0 0;post1 0 0 0;post2 0 0 0;post3 0 0 0;post4 0 0 0;post5 0 0 0;post6 0 0 0;post7 0 0 0;post8 0 0 0;post9 0 0 0;post10 0 0 0;hold 0 1 0 999");
+            t.due(0, "request", 9, 11, 0, 5, 0).due(2, "could", 0).due(1, "request", 9, 11, 1, 6, 0).due(0, "could", 1).due(1, "hold", 11, 2, 0, 999).due(0, "limit", 11, 0, 5).due(6, "could", 0).due(2, "request", 9, 10, 2, 5, 0).due(2, "could", 2);
         });
         s.says(35, "NONE without it", t -> {
             t.due(-1, "could", 0).tell(TALL).due(-1, "could", 0).due(0, "request", 1, 1, 0, 5, 0).due(1, "request", 1, 1, 0, 999, 0).range(0, 0, 1, "could", 0).due(136, "could", 0).due(0, "could", 1);
@@ -279,7 +297,8 @@ final class EdgesOfAnswers {
     private static void tangles(Sentences s) {
         s.says(43, "The most different PERSONS in a line, each a GIVER of a STAND of a DAY to the next one", t -> {
             t.tell("stand 0 1 5 7 0;stand 1 2 7 9 0;stand 2 0 7 7 0;stand 2 3 7 7 0;stand 15 14 999 999 0").due(2, "tangle", 5).due(4, "tangle", 7).due(2, "tangle", 8).due(2, "tangle", 999);
-            t.tell("stand 0 1 0 0 0;stand 1 0 0 0 0").due(2, "tangle", 0).tell("stand 0 1 0 0 0;stand 0 2 0 0 0;stand 2 3 0 0 0;stand 1 3 0 0 0;stand 3 4 0 0 0;stand 5 4 0 0 0").due(4, "tangle", 0).tell("");
+            t.tell("stand 0 1 0 0 0;stand 1 0 0 0 0").due(2, "tangle", 0).tell("stand 0 1 0 0 0;stand 0 2 0 0 0;stand 2 3 0 0 0;stand 1 3 0 0 0;stand 3 4 0 0 0;stand 5 4 0 0 0").due(4, "tangle", 0);
+            t.tell("stand 0 1 0 0 0;stand 1 2 0 0 0;stand 2 1 0 0 0").due(3, "tangle", 0).tell("stand 1 2 0 0 0;stand 2 1 0 0 0;stand 2 3 0 0 0;stand 0 1 0 0 0;stand 3 0 0 0 0").due(4, "tangle", 0).tell("");
             for (int person = 0; person < 15; person++) {
                 t.due(person, "stand", person, person + 1, 9, 9, 0).due(person + 2, "tangle", 9);
             }
@@ -298,6 +317,11 @@ final class EdgesOfAnswers {
             t.tell(TALL + ";hold 0 0 0 0;away 9 0 0;away 9 1 1;away 9 2 2;away 9 3 3;stand 1 2 3 4 5;foe 1 2;foe 1 3;foe 1 4;foe 1 5;foe 1 6;window 7;pace 8;wait 9");
             t.due(0, "request", 1, 1, 0, 5, 0).due(1, "request", 1, 1, 11, 501, 0).due(2, "request", 1, 1, 12, 501, 0).due(3, "request", 1, 1, 13, 501, 0).due(4, "request", 1, 1, 4, 101, 0).due(1, "recall", 1, 0).feed("0123456789abc");
             t.dueRow("count", new int[0], 2, 3, 4, 1, 5, 7, 8, 9, 5, 1, 2, 6, 13, 0);
+        });
+        s.says(44, "8: REQUESTS, 9: RECALLED ones, 10: STUCK ones (not RECALLED)", t -> {
+            t.due(0, "count", 8).due(0, "count", 9).due(0, "count", 10).tell(TALL).due(0, "request", 1, 1, 0, 501, 0).due(1, "count", 10).due(1, "request", 1, 1, 1, 500, 0).due(1, "count", 10).due(2, "request", 1, 1, 2, 501, 0);
+            t.due(2, "count", 10).due(3, "request", 1, 1, 3, 501, 999).due(3, "count", 10).due(4, "request", 1, 1, 4, 101, 999).due(4, "count", 10).due(1, "recall", 0, 0).due(3, "count", 10).due(1, "count", 9).due(500, "limit", 0, 0, 501).due(2, "count", 10);
+            t.due(1, "recall", 1, 0).due(2, "count", 10).due(2, "count", 9).due(5, "count", 8);
         });
         s.says(44, "13: SHELVES on which something is KEPT, as bits", t -> {
             t.due(0, "count", 13).due(0, "keep", 1).due(2, "count", 13).due(0, "keep", 1).due(2, "count", 13).due(0, "keep", 0).due(3, "count", 13).due(0, "back", 0).due(3, "count", 13).tell("").due(3, "count", 13);

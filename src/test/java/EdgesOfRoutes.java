@@ -48,6 +48,12 @@ final class EdgesOfRoutes {
             t.due(1, "away", 2, 0, 999).due(4, "decides", 0, 5, -1, 0).due(3, "decides", 0, 4, -1, 0).due(2, "away", 4, 0, 999).due(3, "decides", 0, 5, -1, 0);
             t.due(3, "away", 3, 0, 999).due(7, "decides", 0, 5, -1, 0).due(4, "away", 7, 0, 999).due(-5, "decides", 0, 5, -1, 0).due(4, "drop", 1, 1).due(2, "decides", 0, 5, -1, 0);
         });
+        s.says(TERMS, "those who stand in for it (STANDS it gave, of that DAY, in order) are asked", t -> {
+            t.tell(ONE + ";away 1 0 999");
+            for (int taker = 15; taker >= 0; taker -= taker == 2 ? 2 : 1) {
+                t.due(0, "stand", 1, taker, 0, 999, 70 + taker).due(taker, "decides", 0, 5, -1, 0).due(70 + taker, "power", taker, 5, 0).due(0, "drop", 2, 0);
+            }
+        });
         s.says(TERMS, "each with the lesser of that limit and the CAP", t -> {
             t.tell(ONE + ";away 1 0 999;away 3 0 999;away 4 0 999;stand 1 2 0 0 99;stand 1 2 1 1 100;stand 1 2 2 2 101;stand 1 2 3 3 0;stand 1 3 4 9 50;stand 3 2 4 4 49;stand 3 2 5 5 51");
             t.due(99, "power", 2, 0, 0).due(100, "power", 2, 1, 0).due(100, "power", 2, 2, 0).due(0, "power", 2, 3, 0).due(49, "power", 2, 4, 0).due(50, "power", 2, 5, 0);

@@ -12,6 +12,7 @@ final class EdgesOfTerms {
         entries(s);
         settings(s);
         requests(s);
+        allFull(s);
         joining(s);
         actsAndShelves(s);
         whichAnswerGoesAhead(s);
@@ -135,6 +136,74 @@ final class EdgesOfTerms {
         s.says(TERMS, "RECALLED on a DAY, or not", t -> {
             t.tell("post top 0 0 0").due(0, "request", 1, 0, 0, 1, 0).due(1, "request", 1, 0, 0, 1, 0).due(0, "count", 9).due(1, "recall", 0, 0);
             t.due(0, "asked", 0, 6).due(-2, "asked", 1, 6).due(1, "count", 9).due(3, "ends", 0, 0).due(2, "ends", 1, 0);
+        });
+    }
+
+    /** An order of which there is as much as there may be, each number another one. */
+    private static Trial full(Trial t) {
+        StringBuilder text = new StringBuilder("post top 100 200 300");
+        for (int post = 1; post < 12; post++) {
+            text.append(";post " + (post - 1) + " " + (100 + post) + " " + (200 + post) + " " + (300 + post));
+        }
+        t.tell(text.toString());
+        for (int k = 0; k < 24; k++) {
+            t.due(k, "hold", k % 12, k % 16, k, 900 + k).due(k, "away", k % 16, 30 + k, 500 + k).due(k, "stand", k % 16, (k + 1) % 16, 60 + k, 600 + k, 1000 + k);
+        }
+        for (int k = 0; k < 16; k++) {
+            t.due(k, "foe", k, k % 10);
+        }
+        for (int k = 0; k < 40; k++) {
+            t.due(k, "request", k % 16, k % 12, k % 30, 5000 + k, 700 + k);
+        }
+        return t;
+    }
+
+    private static void seeFullOrder(Trial t) {
+        for (int post = 0; post < 12; post++) {
+            t.dueRow("post", new int[] {post}, post == 0 ? -2 : post - 1, 100 + post, 200 + post, 300 + post);
+        }
+        for (int k = 0; k < 24; k++) {
+            t.dueRow("entry", new int[] {0, k}, k % 12, k % 16, k, 900 + k).dueRow("entry", new int[] {1, k}, k % 16, 30 + k, 500 + k);
+        }
+    }
+
+    private static void seeFullRequests(Trial t) {
+        for (int k = 0; k < 24; k++) {
+            t.dueRow("entry", new int[] {2, k}, k % 16, (k + 1) % 16, 60 + k, 600 + k, 1000 + k);
+        }
+        for (int k = 0; k < 16; k++) {
+            t.dueRow("entry", new int[] {3, k}, k, k % 10);
+        }
+        for (int k = 24; k < 40; k++) {
+            t.dueRow("asked", new int[] {k}, k % 16, k % 12, k % 30 % 10, k % 30 / 10, 5000 + k, 700 + k, -2);
+        }
+    }
+
+    /** The last one of each kind goes, and comes again: the kinds do not reach into one another. */
+    private static Trial lastOnesAnew(Trial t) {
+        t.due(23, "drop", 0, 23).due(23, "drop", 1, 23).due(23, "drop", 2, 23).due(15, "drop", 3, 15);
+        return t.due(23, "hold", 11, 7, 23, 923).due(23, "away", 7, 53, 523).due(23, "stand", 7, 8, 83, 623, 1023).due(15, "foe", 15, 5);
+    }
+
+    private static void allFull(Sentences s) {
+        s.says(TERMS, "POSTS 0, 1, .. (12 at most, as they were told)", t -> {
+            seeFullOrder(full(t));
+            seeFullRequests(full(t.another()));
+            Trial kept = full(t.another()).due(40, "keep", 1).tell("").due(40, "back", 1);
+            seeFullOrder(kept);
+            kept = full(t.another()).due(40, "keep", 0).due(23, "drop", 2, 0).due(40, "back", 0);
+            seeFullRequests(kept);
+        });
+        s.says(12, "those behind it get a number less", t -> {
+            seeFullOrder(lastOnesAnew(full(t)));
+            seeFullRequests(lastOnesAnew(full(t.another())));
+        });
+        s.says(TERMS, "REQUESTS 0, 1, .. (40 at most)", t -> {
+            full(t);
+            for (int k = 0; k < 24; k++) {
+                t.dueRow("asked", new int[] {k}, k % 16, k % 12, k % 30 % 10, k % 30 / 10, 5000 + k, 700 + k, -2);
+            }
+            t.dueRow("post", new int[] {11}, 10, 111, 211, 311).due(300, "limit", 0, 2, 9999).due(311, "limit", 11, 2, 9999).due(0, "asked", 0, 0).due(15, "drop", 3, 0).due(9, "entry", 3, 8, 1);
         });
     }
 

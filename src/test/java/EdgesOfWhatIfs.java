@@ -16,11 +16,24 @@ final class EdgesOfWhatIfs {
         questionsChangeNothing(s);
     }
 
+    /** Twelve posts, one above the other; at the highest alone someone decides, up to 5. */
+    private static Trial tower(Trial t) {
+        StringBuilder text = new StringBuilder("post top 5 0 0");
+        for (int post = 1; post < 12; post++) {
+            text.append(";post " + (post - 1) + " 0 0 0");
+        }
+        return t.tell(text + ";hold 0 1 0 999");
+    }
+
     private static void splits(Sentences s) {
         s.says(28, "1 if a REQUEST (RECALLED or not) would be APPROVED by its AMOUNT alone, and by its WHOLE is not, or behind more STEPS; else 0", t -> {
             t.tell(TALL + ";window 9").due(0, "request", 1, 1, 0, 60, 0).due(1, "request", 1, 1, 0, 40, 9).due(2, "request", 1, 1, 0, 1, 9).due(3, "request", 1, 1, 0, 399, 9).due(4, "request", 1, 1, 0, 1, 9);
             t.due(0, "split", 0).due(0, "split", 1).due(1, "split", 2).due(0, "split", 3).due(1, "ends", 3, 0).due(1, "split", 4).due(2, "ends", 4, 0).due(5, "request", 1, 1, 0, 500, 9).due(1, "split", 5).due(6, "request", 1, 1, 0, 501, 9).due(0, "split", 6);
             t.due(1, "recall", 4, 9).due(1, "split", 4).due(1, "recall", 5, 9).due(1, "split", 5).due(100, "limit", 1, 0, 99).due(1, "split", 2).due(1, "split", 1).due(0, "split", 0);
+        });
+        s.says(28, "and by its WHOLE is not, or behind more STEPS; else 0", t -> {
+            t.tell(TALL + ";post top 9 0 0;hold 2 5 0 999;window 9").due(0, "request", 1, 1, 0, 500, 0).due(1, "request", 2, 2, 0, 460, 0).due(2, "request", 2, 2, 0, 50, 0).due(2, "step", 0, -1, 0).due(0, "split", 2).due(3, "request", 2, 2, 0, 9, 0).due(1, "split", 3);
+            tower(t.another()).due(0, "request", 9, 11, 0, 6, 0).due(0, "split", 0).due(1, "request", 9, 11, 1, 5, 0).due(0, "split", 1).due(2, "request", 9, 11, 1, 1, 0).due(1, "split", 2).due(3, "request", 9, 11, 1, 5, 0).due(1, "split", 3);
         });
         s.says(28, "NONE without it", t -> {
             t.due(-1, "split", 0).tell(TALL).due(-1, "split", 0).due(0, "request", 1, 1, 0, 60, 0).due(1, "request", 1, 1, 0, 60, 0).range(0, 0, 1, "split", 0).due(1, "split", 1);
@@ -82,8 +95,7 @@ final class EdgesOfWhatIfs {
             t.due(-1, "most", 0, 0).tell("post top 2 1 0" + ";post 0 0 0 0" + ";post 1 0 0 0").due(-1, "most", 0, 0).due(0, "request", 9, 2, 0, 1, 5).due(1, "request", 9, 0, 0, 1, 5).range(0, 0, 1, "most", 0, 0).range(1, 0, 2, "most", 0, 0).range(1, 0, 0, "most", 1, 0);
         });
         s.says(31, "or if there are not so many above", t -> {
-            t.tell("post top 5 0 0;post0 0 0 0;post1 0 0 0;post2 0 0 0;post3 0 0 0;post4 0 0 0;post5 0 0 0;post6 0 0 0;post7 0 0 0;post8 0 0 0;post9 0 0 0;post10 0 0 0;hold 0 1 0 999");
-            t.due(0, "request", 9, 11, 0, 1, 0).range(1, 0, 11, "most", 0, 0).due(-2, "most", 0, 10).due(5, "most", 0, 11);
+            tower(t).due(0, "request", 9, 11, 0, 1, 0).range(1, 0, 11, "most", 0, 0).due(-2, "most", 0, 10).due(5, "most", 0, 11);
         });
     }
 
@@ -129,6 +141,9 @@ final class EdgesOfWhatIfs {
             t.due(0, "limit", 0, 0, 9).due(10, "limit", 1, 0, 9).dueRow("pillar", new int[0], 4, 1);
             t = t.another().tell(TALL).due(0, "request", 1, 1, 0, 101, 996).dueRow("pillar", new int[0], 7, 1).due(1, "request", 1, 1, 0, 101, 997).dueRow("pillar", new int[0], 7, 2).due(1, "undo");
             t.due(1, "request", 1, 1, 0, 100, 998).dueRow("pillar", new int[0], 3, 1).due(2, "request", 1, 1, 0, 100, 999).dueRow("pillar", new int[0], 3, 2);
+        });
+        s.says(40, "would make the most REQUESTS (not RECALLED) STUCK that are APPROVED", t -> {
+            tower(t).due(0, "request", 9, 11, 0, 5, 0).due(12, "step", 0, -1, 0).dueRow("pillar", new int[0], 1, 1).due(1, "request", 9, 11, 1, 6, 0).dueRow("pillar", new int[0], 1, 1).due(2, "request", 9, 0, 2, 5, 0).dueRow("pillar", new int[0], 1, 2);
         });
         s.says(40, "-2: none would", t -> {
             t.dueRow("pillar", new int[0], -2, -2).tell(TALL).dueRow("pillar", new int[0], -2, -2).due(0, "request", 1, 1, 0, 100, 5).dueRow("pillar", new int[0], -2, -2).due(1, "request", 1, 1, 1, 501, 5).dueRow("pillar", new int[0], -2, -2);
