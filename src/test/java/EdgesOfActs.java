@@ -44,7 +44,8 @@ final class EdgesOfActs {
             t.dueRow("asked", new int[] {0}, 15, 1, 9, 2, 9999, 999, -2).dueRow("asked", new int[] {1}, 0, 0, 0, 0, 1, 0, -2);
         });
         s.says(5, "NONE, and nothing happens, without these", t -> {
-            t.tell(EMPTY).range(0, 0, 15, "request", 1, 1, 1, 1, 1).range(1, 0, 1, "request", 1, 1, 1, 1, 1).range(2, 0, 29, "request", 1, 1, 1, 1, 1);
+            t.tell(EMPTY).range(0, 0, 15, "request", 1, 1, 1, 1, 1).range(1, 0, 1, "request", 1, 1, 1, 1, 1)
+                    .range(2, 0, 29, "request", 1, 1, 1, 1, 1);
             t.range(3, 1, 9999, "request", 1, 1, 1, 1, 1).range(4, 0, 999, "request", 1, 1, 1, 1, 1);
             t.due(0, "request", 1, 1, 1, 1, 1).range(3, 1, 9999, "request", 1, 1, 1, 1, 1);
             t.another().refused(-1, "request", 1, 0, 1, 1, 1);
@@ -84,12 +85,14 @@ final class EdgesOfActs {
         });
         s.says(6, "-2: it is already", t -> {
             t.tell(EMPTY).due(0, "request", 1, 1, 1, 1, 10).due(1, "recall", 0, 20);
-            t.refused(-2, "recall", 0, 20).refused(-2, "recall", 0, 19).refused(-2, "recall", 0, 21).refused(-2, "recall", 0, 999).refused(-2, "recall", 0, 10);
+            t.refused(-2, "recall", 0, 20).refused(-2, "recall", 0, 19).refused(-2, "recall", 0, 21).refused(-2, "recall", 0, 999)
+                    .refused(-2, "recall", 0, 10);
             t.refused(-1, "recall", 0, 9).refused(-1, "recall", 0, 1000).farOut(1, "recall", 0, 10);
         });
         s.says(6, "-3: it is APPROVED on that DAY, or ahead of it", t -> {
             t.tell(TALL).due(0, "request", 1, 1, 0, 101, 5).due(1, "request", 2, 1, 0, 100, 5).due(6, "ends", 0, 1).due(5, "ends", 1, 1);
-            t.refused(-3, "recall", 0, 6).refused(-3, "recall", 0, 7).refused(-3, "recall", 0, 999).refused(-3, "recall", 1, 5).refused(-3, "recall", 1, 6);
+            t.refused(-3, "recall", 0, 6).refused(-3, "recall", 0, 7).refused(-3, "recall", 0, 999).refused(-3, "recall", 1, 5)
+                    .refused(-3, "recall", 1, 6);
             t.refused(-1, "recall", 0, 4).refused(-1, "recall", 0, 1000).refused(-1, "recall", 1, 4).farOut(1, "recall", 1, 5);
             t.due(1, "recall", 0, 5).refused(-2, "recall", 0, 6);
         });
@@ -98,7 +101,8 @@ final class EdgesOfActs {
     private static void amending(Sentences s) {
         s.says(7, "A REQUEST is RECALLED on a DAY, and one more is made on it, alike but for the AMOUNT: its number", t -> {
             t.tell(TALL).due(0, "request", 1, 1, 0, 400, 5).due(1, "request", 2, 0, 29, 7, 3);
-            t.due(2, "amend", 0, 9999, 5).dueRow("asked", new int[] {0}, 1, 1, 0, 0, 400, 5, 5).dueRow("asked", new int[] {2}, 1, 1, 0, 0, 9999, 5, -2, 9999, 0);
+            t.due(2, "amend", 0, 9999, 5).dueRow("asked", new int[] {0}, 1, 1, 0, 0, 400, 5, 5)
+                    .dueRow("asked", new int[] {2}, 1, 1, 0, 0, 9999, 5, -2, 9999, 0);
             t.due(3, "amend", 1, 1, 999).dueRow("asked", new int[] {3}, 2, 0, 9, 2, 1, 999, -2, 1, 0).due(999, "asked", 1, 6);
             t.due(4, "amend", 2, 9998, 6).due(5, "count", 8).due(3, "count", 9).due(5, "count", 11);
             t.due(4, "undo").due(4, "count", 8).due(-2, "asked", 2, 6).due(2, "count", 9);
@@ -118,7 +122,8 @@ final class EdgesOfActs {
             fillRequests(t, 1, 39);
             t.does(0, 0, "amend", 0, 5, 5).due(39, "request", 9, 0, 5, 1, 39);
             t.refused(-2, "amend", 0, 5, 5).refused(-2, "amend", 0, 5, 6).refused(-3, "recall", 0, 6);
-            t.refused(-1, "amend", 0, 0, 5).refused(-1, "amend", 0, 10000, 5).refused(-1, "amend", 0, 5, 4).refused(-1, "amend", 0, 5, 1000).refused(-1, "amend", 40, 5, 5);
+            t.refused(-1, "amend", 0, 0, 5).refused(-1, "amend", 0, 10000, 5).refused(-1, "amend", 0, 5, 4).refused(-1, "amend", 0, 5, 1000)
+                    .refused(-1, "amend", 40, 5, 5);
             t.due(9, "undo").due(39, "amend", 0, 5, 5).refused(-2, "amend", 39, 5, 5);
         });
     }
@@ -128,7 +133,8 @@ final class EdgesOfActs {
     private static void holding(Sentences s) {
         s.says(8, "One HOLD more, behind the others: its number", t -> {
             t.tell(EMPTY + ";hold 1 3 0 99").due(1, "hold", 1, 15, 99, 999).dueRow("entry", new int[] {0, 1}, 1, 15, 99, 999);
-            t.due(3, "decides", 1, 99, -1, 0).due(15, "decides", 1, 100, -1, 0).due(2, "hold", 0, 0, 0, 0).dueRow("entry", new int[] {0, 2}, 0, 0, 0, 0);
+            t.due(3, "decides", 1, 99, -1, 0).due(15, "decides", 1, 100, -1, 0).due(2, "hold", 0, 0, 0, 0)
+                    .dueRow("entry", new int[] {0, 2}, 0, 0, 0, 0);
         });
         s.says(8, "NONE, and nothing happens, without these", t -> {
             t.another().refused(-1, "hold", 0, 0, 0, 0);
@@ -141,7 +147,8 @@ final class EdgesOfActs {
                 t.due(k, "hold", 1, 2, k, k);
             }
             t.refused(-2, "hold", 1, 2, 5, 10).due(24, "count", 1).refused(-1, "hold", 2, 2, 5, 10).refused(-1, "hold", 1, 16, 5, 10);
-            t.refused(-1, "hold", 1, 2, 5, 4).refused(-1, "hold", 1, 2, 5, 1000).due(0, "away", 1, 1, 1).due(23, "drop", 0, 0).due(23, "hold", 1, 2, 5, 10);
+            t.refused(-1, "hold", 1, 2, 5, 4).refused(-1, "hold", 1, 2, 5, 1000).due(0, "away", 1, 1, 1).due(23, "drop", 0, 0)
+                    .due(23, "hold", 1, 2, 5, 10);
         });
     }
 
@@ -151,13 +158,15 @@ final class EdgesOfActs {
             t.dueRow("entry", new int[] {1, 1}, 15, 999, 999).dueRow("entry", new int[] {1, 3}, 3, 0, 999);
         });
         s.says(9, "NONE, and nothing happens, without these", t -> {
-            t.tell(EMPTY).range(0, 0, 15, "away", 2, 5, 10).range(1, 0, 10, "away", 2, 5, 10).range(2, 5, 999, "away", 2, 5, 10).range(1, 0, 999, "away", 2, 5, 999);
+            t.tell(EMPTY).range(0, 0, 15, "away", 2, 5, 10).range(1, 0, 10, "away", 2, 5, 10).range(2, 5, 999, "away", 2, 5, 10)
+                    .range(1, 0, 999, "away", 2, 5, 999);
         });
         s.says(9, "-2: there are 24", t -> {
             for (int k = 0; k < 24; k++) {
                 t.due(k, "away", 2, k, k);
             }
-            t.refused(-2, "away", 2, 5, 10).due(24, "count", 2).refused(-1, "away", 16, 5, 10).refused(-1, "away", 2, 5, 4).refused(-1, "away", 2, 5, 1000);
+            t.refused(-2, "away", 2, 5, 10).due(24, "count", 2).refused(-1, "away", 16, 5, 10).refused(-1, "away", 2, 5, 4)
+                    .refused(-1, "away", 2, 5, 1000);
             t.due(0, "stand", 1, 2, 1, 1, 1).due(23, "drop", 1, 23).due(23, "away", 2, 5, 10);
         });
     }
@@ -170,7 +179,8 @@ final class EdgesOfActs {
         s.says(10, "NONE, and nothing happens, without these", t -> {
             t.tell(EMPTY).range(0, 0, 15, "stand", 2, 3, 5, 10, 7).range(1, 0, 15, "stand", 2, 3, 5, 10, 7).range(2, 0, 10, "stand", 2, 3, 5, 10, 7);
             t.range(3, 5, 999, "stand", 2, 3, 5, 10, 7).range(4, 0, 9999, "stand", 2, 3, 5, 10, 7);
-            t.refused(-1, "stand", 3, 3, 5, 10, 7).refused(-1, "stand", 0, 0, 5, 10, 7).refused(-1, "stand", 15, 15, 5, 10, 7).does(0, 4, "stand", 2, 3, 5, 10, 7);
+            t.refused(-1, "stand", 3, 3, 5, 10, 7).refused(-1, "stand", 0, 0, 5, 10, 7).refused(-1, "stand", 15, 15, 5, 10, 7)
+                    .does(0, 4, "stand", 2, 3, 5, 10, 7);
         });
         s.says(10, "-2: there are 24", t -> {
             for (int k = 0; k < 24; k++) {
@@ -189,11 +199,13 @@ final class EdgesOfActs {
             t.tell(EMPTY).range(0, 0, 15, "foe", 1, 2).range(1, 0, 9, "foe", 1, 2);
         });
         s.says(11, "-2: there are 16, or that one is", t -> {
-            t.due(0, "foe", 3, 4).refused(-2, "foe", 3, 4).does(0, 4, "foe", 3, 4).does(1, 3, "foe", 3, 4).due(1, "foe", 4, 3).refused(-2, "foe", 3, 4);
+            t.due(0, "foe", 3, 4).refused(-2, "foe", 3, 4).does(0, 4, "foe", 3, 4).does(1, 3, "foe", 3, 4).due(1, "foe", 4, 3)
+                    .refused(-2, "foe", 3, 4);
             for (int k = 2; k < 16; k++) {
                 t.due(k, "foe", k, 9);
             }
-            t.refused(-2, "foe", 0, 0).refused(-2, "foe", 3, 4).due(16, "count", 4).refused(-1, "foe", 16, 0).refused(-1, "foe", 0, 10).farOut(1, "foe", 3, 4);
+            t.refused(-2, "foe", 0, 0).refused(-2, "foe", 3, 4).due(16, "count", 4).refused(-1, "foe", 16, 0).refused(-1, "foe", 0, 10)
+                    .farOut(1, "foe", 3, 4);
             t.due(15, "drop", 3, 0).refused(-2, "foe", 15, 9).due(15, "foe", 3, 4).refused(-2, "foe", 0, 0);
             t.another().tell("foe 1 2;foe 1 2").due(2, "count", 4).refused(-2, "foe", 1, 2).due(1, "drop", 3, 0).refused(-2, "foe", 1, 2);
         });
@@ -202,7 +214,8 @@ final class EdgesOfActs {
     private static void dropping(Sentences s) {
         s.says(12, "A HOLD (kind 0), an AWAY (1), a STAND (2), a FOE (3) goes; those behind it get a number less: how many are left of its kind", t -> {
             t.tell("post top 1 2 3;hold 0 1 2 3;hold 0 4 5 6;hold 0 7 8 9;away 1 2 3;away 4 5 6;stand 1 2 3 4 5;stand 6 7 8 9 10;foe 1 2;foe 3 4");
-            t.due(2, "drop", 0, 1).dueLetters("post top 1 2 3;hold 0 1 2 3;hold 0 7 8 9;away 1 2 3;away 4 5 6;stand 1 2 3 4 5;stand 6 7 8 9 10;foe 1 2;foe 3 4");
+            t.due(2, "drop", 0, 1)
+                    .dueLetters("post top 1 2 3;hold 0 1 2 3;hold 0 7 8 9;away 1 2 3;away 4 5 6;stand 1 2 3 4 5;stand 6 7 8 9 10;foe 1 2;foe 3 4");
             t.due(1, "drop", 1, 0).due(1, "drop", 2, 1).due(1, "drop", 3, 0);
             t.dueLetters("post top 1 2 3;hold 0 1 2 3;hold 0 7 8 9;away 4 5 6;stand 1 2 3 4 5;foe 3 4");
             t.due(0, "drop", 1, 0).due(0, "drop", 2, 0).due(0, "drop", 3, 0).due(1, "drop", 0, 0).due(0, "drop", 0, 0).dueLetters("post top 1 2 3");
@@ -211,14 +224,16 @@ final class EdgesOfActs {
             for (int k = 0; k < 24; k++) {
                 t.due(k, "away", k % 16, k, k);
             }
-            t.due(23, "drop", 1, 23).due(22, "entry", 1, 22, 1).due(22, "drop", 1, 0).due(1, "entry", 1, 0, 1).due(22, "entry", 1, 21, 1).due(-1, "entry", 1, 22, 1);
+            t.due(23, "drop", 1, 23).due(22, "entry", 1, 22, 1).due(22, "drop", 1, 0).due(1, "entry", 1, 0, 1).due(22, "entry", 1, 21, 1)
+                    .due(-1, "entry", 1, 22, 1);
         });
         s.says(12, "NONE, and nothing happens, without these", t -> {
             for (int kind = 0; kind < 4; kind++) {
                 t.refused(-1, "drop", kind, 0);
             }
             t.tell("post top 1 2 3;hold 0 1 2 3;hold 0 4 5 6;away 1 2 3;away 4 5 6;away 4 5 7;stand 1 2 3 4 5;foe 1 2;foe 3 4;foe 5 6;foe 7 8");
-            t.range(0, 0, 3, "drop", 0, 0).range(1, 0, 1, "drop", 0, 0).range(1, 0, 2, "drop", 1, 0).range(1, 0, 0, "drop", 2, 0).range(1, 0, 3, "drop", 3, 0);
+            t.range(0, 0, 3, "drop", 0, 0).range(1, 0, 1, "drop", 0, 0).range(1, 0, 2, "drop", 1, 0).range(1, 0, 0, "drop", 2, 0)
+                    .range(1, 0, 3, "drop", 3, 0);
             t.due(0, "drop", 2, 0).refused(-1, "drop", 2, 0).refused(-1, "drop", 4, 0).refused(-1, "drop", Trial.HIGH, Trial.HIGH);
         });
     }
@@ -227,7 +242,8 @@ final class EdgesOfActs {
 
     private static void limits(Sentences s) {
         s.says(13, "The LIMIT of a POST for a KIND is told: what it was", t -> {
-            t.tell(EMPTY).due(20, "limit", 0, 2, 9999).due(9999, "post", 0, 3).due(9999, "limit", 0, 2, 0).due(0, "post", 0, 3).due(0, "limit", 0, 2, 1);
+            t.tell(EMPTY).due(20, "limit", 0, 2, 9999).due(9999, "post", 0, 3).due(9999, "limit", 0, 2, 0).due(0, "post", 0, 3)
+                    .due(0, "limit", 0, 2, 1);
             t.due(10, "limit", 1, 0, 11).dueRow("post", new int[] {0}, -2, 100, 50, 1).dueRow("post", new int[] {1}, 0, 11, 20, 30);
         });
         s.says(13, "NONE, and nothing happens, without these", t -> {
@@ -235,7 +251,8 @@ final class EdgesOfActs {
             t.tell(EMPTY).range(0, 0, 1, "limit", 0, 0, 5).range(1, 0, 2, "limit", 0, 0, 5).range(2, 0, 9999, "limit", 0, 0, 5);
         });
         s.says(13, "-2: it is so", t -> {
-            t.tell(EMPTY).refused(-2, "limit", 0, 0, 100).refused(-2, "limit", 1, 2, 30).does(2, 99, "limit", 0, 0, 100).does(2, 101, "limit", 0, 0, 100);
+            t.tell(EMPTY).refused(-2, "limit", 0, 0, 100).refused(-2, "limit", 1, 2, 30).does(2, 99, "limit", 0, 0, 100)
+                    .does(2, 101, "limit", 0, 0, 100);
             t.due(100, "limit", 0, 0, 99).refused(-2, "limit", 0, 0, 99).due(0, "undo").refused(-2, "limit", 0, 0, 100);
             t.refused(-1, "limit", 0, 3, 100).refused(-1, "limit", 2, 0, 100);
         });
@@ -264,12 +281,15 @@ final class EdgesOfActs {
             t.tell(TALL + ";away 1 2 3;stand 1 2 3 4 5;foe 1 2").due(0, "request", 1, 1, 2, 400, 5).due(1, "keep", 0);
             t.undone(1, "request", 1, 1, 2, 5, 6).undone(1, "recall", 0, 5).undone(1, "amend", 0, 7, 5).undone(2, "hold", 1, 2, 3, 4);
             t.undone(1, "away", 3, 4, 5).undone(1, "stand", 3, 4, 5, 6, 7).undone(1, "foe", 7, 2).undone(1, "drop", 0, 0).undone(0, "drop", 1, 0);
-            t.undone(0, "drop", 2, 0).undone(0, "drop", 3, 0).undone(100, "limit", 1, 0, 9999).undone(0, "set", 0, 9).undone(1, "set", 1, 0).undone(2, "set", 2, 30);
-            t.due(0, "set", 0, 1).due(1, "set", 0, 2).due(2, "undo").due(2, "count", 11).due(1, "count", 5).due(1, "undo").due(1, "count", 11).due(0, "count", 5);
+            t.undone(0, "drop", 2, 0).undone(0, "drop", 3, 0).undone(100, "limit", 1, 0, 9999).undone(0, "set", 0, 9).undone(1, "set", 1, 0)
+                    .undone(2, "set", 2, 30);
+            t.due(0, "set", 0, 1).due(1, "set", 0, 2).due(2, "undo").due(2, "count", 11).due(1, "count", 5).due(1, "undo").due(1, "count", 11)
+                    .due(0, "count", 5);
         });
         s.says(15, "NONE, and nothing happens, if none can", t -> {
             t.refused(-1, "undo").due(0, "set", 0, 1).due(0, "undo").refused(-1, "undo").due(0, "set", 0, 1);
-            t.tell(EMPTY).refused(-1, "undo").due(0, "request", 1, 1, 1, 1, 1).due(1, "keep", 0).due(1, "back", 0).refused(-1, "undo").due(1, "count", 8);
+            t.tell(EMPTY).refused(-1, "undo").due(0, "request", 1, 1, 1, 1, 1).due(1, "keep", 0).due(1, "back", 0).refused(-1, "undo")
+                    .due(1, "count", 8);
             for (int k = 1; k <= 11; k++) {
                 t.due(k - 1, "set", 0, k);
             }
@@ -297,16 +317,19 @@ final class EdgesOfActs {
             t.tell(FULL).due(0, "request", 1, 0, 0, 1, 0).due(1, "recall", 0, 8).due(1, "request", 1, 0, 0, 2, 9).due(2, "keep", 1);
             t.due(0, "drop", 0, 0).due(0, "drop", 1, 0).due(0, "drop", 2, 0).due(0, "drop", 3, 0).due(1, "limit", 0, 0, 9).due(4, "set", 0, 9);
             t.due(5, "set", 1, 9).due(6, "set", 2, 9).due(2, "request", 2, 0, 0, 3, 9).due(3, "amend", 1, 4, 9).feed("foe 1 2");
-            t.due(2, "back", 1).dueLetters(FULL).due(7, "count", 12).dueRow("asked", new int[] {0}, 1, 0, 0, 0, 1, 0, 8).dueRow("asked", new int[] {1}, 1, 0, 0, 0, 2, 9, -2);
+            t.due(2, "back", 1).dueLetters(FULL).due(7, "count", 12).dueRow("asked", new int[] {0}, 1, 0, 0, 0, 1, 0, 8)
+                    .dueRow("asked", new int[] {1}, 1, 0, 0, 0, 2, 9, -2);
             t.due(0, "count", 11).refused(-1, "undo").due(2, "count", 13).due(2, "request", 2, 0, 0, 3, 9).due(2, "back", 1).due(2, "count", 8);
             t.due(0, "tell").dueLetters("foe 1 2").due(2, "back", 1).dueLetters(FULL);
         });
         s.says(17, "NONE, and nothing happens, without that SHELF", t -> {
-            t.tell(FULL).due(0, "request", 1, 0, 0, 1, 0).due(1, "keep", 0).due(1, "keep", 1).due(1, "request", 1, 0, 0, 1, 0).range(0, 0, 1, "back", 0);
+            t.tell(FULL).due(0, "request", 1, 0, 0, 1, 0).due(1, "keep", 0).due(1, "keep", 1).due(1, "request", 1, 0, 0, 1, 0)
+                    .range(0, 0, 1, "back", 0);
         });
         s.says(17, "-2: nothing is KEPT", t -> {
             t.refused(-2, "back", 0).refused(-2, "back", 1).refused(-1, "back", 2).refused(-1, "back", -1).farOut(0, "back", 0);
-            t.due(0, "set", 0, 1).due(0, "keep", 0).refused(-2, "back", 1).does(0, 0, "back", 0).another().due(0, "keep", 1).refused(-2, "back", 0).due(0, "back", 1);
+            t.due(0, "set", 0, 1).due(0, "keep", 0).refused(-2, "back", 1).does(0, 0, "back", 0).another().due(0, "keep", 1).refused(-2, "back", 0)
+                    .due(0, "back", 1);
         });
     }
 }

@@ -185,7 +185,8 @@ final class EdgesOfTexts {
             t = t.another();
             t.dueFault(15, 1, POST + " 4").dueFault(28, 1, POST + ";hold 0 1 2 3 4").dueFault(11, 1, "away 1 2 3 4");
             t.dueFault(16, 1, "stand 1 2 3 4 5 6").dueFault(8, 1, "foe 1 2 3").dueFault(9, 1, "window 1 2");
-            t.dueFault(7, 1, "pace 1 2").dueFault(7, 1, "wait 1 2").dueFault(0, 1, "request 1 0 0 1 0").dueFault(0, 1, "top").dueFault(7, 1, "away 1 x 3");
+            t.dueFault(7, 1, "pace 1 2").dueFault(7, 1, "wait 1 2").dueFault(0, 1, "request 1 0 0 1 0").dueFault(0, 1, "top")
+                    .dueFault(7, 1, "away 1 x 3");
         });
     }
 
@@ -225,7 +226,8 @@ final class EdgesOfTexts {
         s.says(TERMS, "(a POST that was not told ahead, a TAKER that is the GIVER, a second DAY below the first, too)", t -> {
             t.dueFault(5, 2, "hold 0 1 2 3;" + POST).dueFault(20, 2, POST + ";hold 1 1 2 3;post 0 1 1 1");
             t.tell(POST + ";post 0 1 1 1;hold 1 1 2 3").due(1, "entry", 0, 0, 0);
-            t.dueFault(8, 2, "stand 1 1 2 3 4").dueFault(8, 2, "stand 0 0 2 3 4").dueFault(9, 2, "stand 15 15 2 3 4").dueFault(8, 2, "stand 1 01 2 3 4");
+            t.dueFault(8, 2, "stand 1 1 2 3 4").dueFault(8, 2, "stand 0 0 2 3 4").dueFault(9, 2, "stand 15 15 2 3 4")
+                    .dueFault(8, 2, "stand 1 01 2 3 4");
             t.tell("stand 1 0 2 3 4;stand 1 2 2 3 4").due(2, "count", 3);
             t.dueFault(26, 2, POST + ";hold 0 1 5 4").dueFault(28, 2, POST + ";hold 0 1 999 998").dueFault(26, 2, POST + ";hold 0 9 1 0");
             t.dueFault(9, 2, "away 1 5 4").dueFault(12, 2, "stand 1 2 5 4 9").dueFault(11, 2, "away 1 999 998").dueFault(9, 2, "away 1 1 0");
