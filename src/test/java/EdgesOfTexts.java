@@ -12,6 +12,7 @@ final class EdgesOfTexts {
         shapes(s);
         uppers(s);
         wordsAndNumbers(s);
+        strayLetters(s);
         blanks(s);
         faultsInOrder(s);
         endsAndStrayBytes(s);
@@ -146,6 +147,22 @@ final class EdgesOfTexts {
             t.dueFault(4, 2, "foe 159").dueFault(6, 2, "foe 1 59").dueFault(5, 1, "foe 1").dueFault(4, 2, "foe 123");
             t.tell("foe 0000000000000000000000000015 009").dueLetters("foe 15 9");
             t.tell("foe 09 0;foe 00 00").dueLetters("foe 9 0;foe 0 0");
+        });
+    }
+
+    /** A part with one letter of its word changed, each in turn. */
+    private static void strayLetters(Sentences s) {
+        String[] parts = {"post top 1 2 3", "hold 0 1 2 3", "away 1 2 3", "stand 1 2 3 4 5", "foe 1 2", "window 1", "pace 2", "wait 3"};
+        s.says(TERMS, "1 a byte or WORD that cannot stand there", t -> {
+            int begin = POST.length() + 1;
+            for (String part : parts) {
+                t.tell(POST + ";" + part);
+                for (int i = 0; i < part.indexOf(' '); i++) {
+                    t.dueFault(begin, 1, POST + ";" + part.substring(0, i) + "x" + part.substring(i + 1));
+                }
+                t = t.another();
+            }
+            t.dueFault(5, 1, "post xop 1 2 3").dueFault(5, 1, "post txp 1 2 3").dueFault(5, 1, "post tox 1 2 3").dueFault(5, 1, "post foe 1 2 3");
         });
     }
 
