@@ -14,6 +14,7 @@ final class EdgesOfWhatIfs {
         pillars(s);
         dodges(s);
         questionsChangeNothing(s);
+        questionsStandAlone(s);
     }
 
     /** Twelve posts, one above the other; at the highest alone someone decides, up to 5. */
@@ -280,5 +281,31 @@ final class EdgesOfWhatIfs {
                     .refused(7, "instead", 0, 0, 2).refused(7, "pillar", 0).refused(2, "gap", 1, 0, 999, 0).refused(1, "dodge", 1, 1, 0, 60, 5);
             t.refused(2, "tangle", 5).refused(1, "count", 9).due(7, "count", 12).due(4, "count", 11);
         });
+    }
+
+    /** What one question supposes (someone away, an AWAY spared, a maker, a vendor) is not there for the next. */
+    private static void questionsStandAlone(Sentences s) {
+        s.says(36, "by none of the PERSONS, for a VENDOR of whom nobody is a FOE, 1", t -> {
+            alone(t).due(2, "without", 0, 3, 0).due(990, "manned", 0, 0, 999, 1).due(-7, "decides", 0, 0, -1, 1).due(990, "manned", 0, 0, 999, 1);
+            t.due(-6, "decides", 0, 0, 3, 0).due(990, "manned", 0, 0, 999, 1).due(0, "cure", 0, 0).due(990, "manned", 0, 0, 999, 1);
+        });
+        s.says(41, "DAYS from one to another one on which nobody DECIDES at a POST (as manned(), what 1)", t -> {
+            alone(t).due(2, "without", 0, 3, 0).due(10, "gap", 0, 0, 999, 0).due(-7, "decides", 0, 0, -1, 1).due(10, "gap", 0, 0, 999, 0);
+            t.due(-6, "decides", 0, 0, 3, 0).due(10, "gap", 0, 0, 999, 0).due(0, "cure", 0, 0).due(10, "gap", 0, 0, 999, 0);
+        });
+        s.says(26, "on a request of a KIND by none of the PERSONS", t -> {
+            alone(t).due(2, "without", 0, 3, 0).due(9, "power", 3, 0, 0).due(0, "cure", 0, 0).due(-2, "power", 3, 10, 0)
+                    .due(-6, "decides", 0, 0, 3, 0).due(9, "power", 3, 0, 0);
+        });
+        s.says(25, "Who DECIDES at a POST on a DAY on a request by a PERSON", t -> {
+            alone(t).due(2, "without", 0, 3, 0).due(3, "decides", 0, 0, -1, 0).due(0, "cure", 0, 0).due(-5, "decides", 0, 10, -1, 0)
+                    .due(2, "without", 0, 3, 0);
+            t.due(1, "dodge", 1, 0, 0, 9, 0).due(0, "cure", 0, 0).due(-2, "dodge", 1, 0, 0, 9, 10).due(2, "without", 0, 3, 0).due(1, "ends", 0, 0)
+                    .due(8, "could", 0);
+        });
+    }
+
+    private static Trial alone(Trial t) {
+        return t.tell("post top 9 9 9;hold 0 3 0 999;away 3 10 19;foe 3 1").due(0, "request", 1, 0, 0, 5, 0);
     }
 }
