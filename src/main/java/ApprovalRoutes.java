@@ -1510,7 +1510,7 @@ public final class ApprovalRoutes {
 
         /** As far up as it goes, as if no limit covered it. */
         void climb(Matter matter) {
-            matter.whole = Integer.MAX_VALUE;
+            matter.whole = LARGEST + 1;
             follow(matter);
         }
 

@@ -26,7 +26,7 @@ final class EdgesOfAnswers {
     // ---- what there is ----
 
     private static void posts(Sentences s) {
-        s.says(18, "what 0: its UPPER one (-2: none)", t -> {
+        s.says(18, "Of a POST what 0: its UPPER one (-2: none)", t -> {
             t.tell("post top 1 1 1;post top 1 1 1;post 0 1 1 1;post 1 1 1 1").due(-2, "post", 0, 0).due(-2, "post", 1, 0).due(0, "post", 2, 0)
                     .due(1, "post", 3, 0);
         });

@@ -22,7 +22,7 @@ final class EdgesOfRoutes {
     // ---- who decides ----
 
     private static void askingTheHolder(Sentences s) {
-        s.says(TERMS, "the HOLDER (the first HOLD of that POST and DAY) is asked, with the POST's LIMIT of that KIND", t -> {
+        s.says(TERMS, "Who DECIDES at a POST on a DAY on a request by a PERSON, for a VENDOR, of a KIND: the HOLDER (the first HOLD of that POST and DAY) is asked, with the POST's LIMIT of that KIND", t -> {
             t.tell("post top 10 20 30;post 0 1 2 3;hold 1 9 0 999;hold 0 1 5 9;hold 0 2 0 20;away 1 7 7").due(2, "decides", 0, 4, -1, 0)
                     .due(1, "decides", 0, 5, -1, 0);
             t.due(1, "decides", 0, 9, -1, 0).due(2, "decides", 0, 10, -1, 0).due(2, "decides", 0, 20, -1, 0).due(-4, "decides", 0, 21, -1, 0)
@@ -30,7 +30,7 @@ final class EdgesOfRoutes {
             t.due(9, "decides", 1, 21, -1, 0).dueRow("power", new int[] {2, 0}, 10, 20, 30).dueRow("power", new int[] {9, 0}, 1, 2, 3);
             t.due(2, "drop", 0, 1).due(2, "decides", 0, 7, -1, 0);
         });
-        s.says(TERMS, "if it is the PERSON who made the request: it does not, nor anyone who stands in for it", t -> {
+        s.says(TERMS, "Is one asked: if it is the PERSON who made the request: it does not, nor anyone who stands in for it", t -> {
             t.tell(ONE + ";stand 1 2 0 999 90;stand 2 3 0 999 80;away 2 10 19").due(-6, "decides", 0, 5, 1, 0).due(1, "decides", 0, 5, 0, 0)
                     .due(1, "decides", 0, 5, 2, 0).due(1, "decides", 0, 5, -1, 0);
             t.due(1, "away", 1, 5, 15).due(-6, "decides", 0, 5, 1, 0).due(2, "decides", 0, 5, 0, 0).due(-5, "decides", 0, 5, 2, 0)
@@ -109,11 +109,11 @@ final class EdgesOfRoutes {
     // ---- the way up ----
 
     private static void waiting(Sentences s) {
-        s.says(TERMS, "it comes to its POST on its DAY", t -> {
+        s.says(TERMS, "ROUTE of a REQUEST: it comes to its POST on its DAY", t -> {
             t.tell(TALL).due(0, "request", 1, 1, 0, 5, 0).due(1, "request", 1, 0, 0, 5, 999).due(1, "step", 0, 0, 0).due(0, "step", 0, 0, 1)
                     .due(0, "step", 1, 0, 0).due(999, "step", 1, 0, 1);
         });
-        s.says(TERMS, "the first DAY from d to d + WAIT (999 at most) on which someone DECIDES: a STEP on that DAY", t -> {
+        s.says(TERMS, "At a POST to which it comes on a DAY d: the first DAY from d to d + WAIT (999 at most) on which someone DECIDES: a STEP on that DAY", t -> {
             t.tell("post top 9 9 9;hold 0 1 12 12;hold 0 1 999 999").due(0, "request", 0, 0, 0, 1, 10).due(1, "request", 0, 0, 0, 1, 9)
                     .due(2, "request", 0, 0, 0, 1, 12).due(3, "request", 0, 0, 0, 1, 13);
             t.dueRow("step", new int[] {0, 0}, 0, 12, 1, 9, 0, 0).dueRow("step", new int[] {1, 0}, 0, 11, -2, -2, 2, -2).due(12, "step", 2, 0, 1)
@@ -286,7 +286,7 @@ final class EdgesOfRoutes {
                     .due(1, "decides", 0, 0, 15, 0).due(-1, "decides", 0, 0, -2, 0);
             t.range(2, -1, 15, "decides", 0, 0, 0, 0);
         });
-        s.says(25, "(which: VENDOR and 10 times the KIND): the PERSON", t -> {
+        s.says(25, "for a VENDOR of a KIND (which: VENDOR and 10 times the KIND): the PERSON", t -> {
             t.tell("post top 1 1 1;hold 0 0 0 9;hold 0 15 999 999;foe 0 9").due(0, "decides", 0, 0, -1, 0).due(0, "decides", 0, 0, -1, 28)
                     .due(-7, "decides", 0, 0, -1, 29).due(-7, "decides", 0, 0, -1, 9).due(0, "decides", 0, 0, -1, 10);
             t.due(15, "decides", 0, 999, -1, 29).due(-7, "decides", 0, 0, -1, 19).due(0, "decides", 0, 0, -1, 20);

@@ -72,7 +72,7 @@ final class EdgesOfTerms {
             t.dueFault(5, 2, "post 0 0 0 0").dueFault(20, 2, "post top 0 0 0;post 1 0 0 0")
                     .dueFault(20, 2, "post top 0 0 0;post 2 0 0 0;post top 0 0 0");
         });
-        s.says(TERMS, "a LIMIT (0 to 9999) for each KIND", t -> {
+        s.says(TERMS, "and a LIMIT (0 to 9999) for each KIND", t -> {
             t.tell("post top 0 1 9999;hold 0 3 0 999").range(2, 0, 9999, "limit", 0, 0, 5).range(2, 0, 9999, "limit", 0, 1, 5)
                     .range(2, 0, 9999, "limit", 0, 2, 5);
         });
@@ -323,7 +323,7 @@ final class EdgesOfTerms {
                     .due(-2, "gap", 0, 0, 9, 1).due(-1, "gap", 0, 9, 0, 1);
             t.due(-2, "post", 0, 0).due(-1, "post", 1, 0).due(-1, "pillar", 2);
         });
-        s.says(TERMS, "`NONE = -1`: None.", t -> {
+        s.says(TERMS, "The constants: `NONE = -1`: None.", t -> {
             s.check(ApprovalRoutes.NONE == -1, "NONE is " + ApprovalRoutes.NONE);
             t.due(-1, "undo").due(ApprovalRoutes.NONE, "undo");
         });

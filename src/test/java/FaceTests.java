@@ -19,6 +19,8 @@ public final class FaceTests {
     private static final Path ROOT = Path.of(System.getProperty("project.root", "."));
     private static final String FORBIDDEN = "\\b(throw|throws|try|catch|synchronized|assert|instanceof|import|package|protected|Exception|Error)\\b"
             + "|->|::|@|\\w+Exact\\(|\\b(System\\.(?!arraycopy\\()\\w+)";
+    private static final Set<String> LIBRARY = Set.of("Math.max", "Math.min", "Long.bitCount", "System.arraycopy");
+    private static final Set<String> OF_TEXTS = Set.of("length", "charAt");
     private static int wrong = 0;
 
     private static void mustBe(boolean is, String what) {
@@ -71,7 +73,7 @@ public final class FaceTests {
 
     private static void nothingElseIsSeen() {
         for (Field field : ApprovalRoutes.class.getDeclaredFields()) {
-            boolean isNone = field.getName().equals("NONE") && Modifier.isPublic(field.getModifiers());
+            boolean isNone = field.toString().equals("public static final int ApprovalRoutes.NONE");
             mustBe(isNone || Modifier.isPrivate(field.getModifiers()), field.getName() + " is private");
         }
         for (Method method : ApprovalRoutes.class.getDeclaredMethods()) {
@@ -132,7 +134,20 @@ public final class FaceTests {
         int makes = code.split("new (?!int\\[|byte\\[)", -1).length - 1;
         int inConstructors = code.split("= new (State|Past|Tape|Reader|Letter|Matter|Desk|Route|Web)\\b", -1).length - 1;
         mustBe(makes == inConstructors, "objects are made in constructors alone");
+        libraryIsAsRuled(code);
         methodsAreShort(source.split("\n"));
+    }
+
+    /** Rule 4 names each function; constants of the library are not among what it names. */
+    private static void libraryIsAsRuled(String code) {
+        Matcher ofClass = Pattern.compile("\\b[A-Z]\\w*[a-z]\\w*\\.\\w+").matcher(code);
+        while (ofClass.find()) {
+            mustBe(LIBRARY.contains(ofClass.group()), "the library has no " + ofClass.group() + " by rule 4");
+        }
+        Matcher ofText = Pattern.compile("\\b(word|signs)\\.(\\w+)\\(").matcher(code);
+        while (ofText.find()) {
+            mustBe(OF_TEXTS.contains(ofText.group(2)), "a text's " + ofText.group(2) + " is not used");
+        }
     }
 
     private static void methodsAreShort(String[] lines) {

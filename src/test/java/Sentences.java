@@ -11,13 +11,16 @@ import java.util.regex.Pattern;
 
 /**
  * Tests by the document's own sentences: each quotes the words that it is about. The words must stand in the
- * section that is named, and at the end each word of the document that tells of a boundary must have been quoted.
+ * section that is named, and at the end each word of these sections, from "What it is" on, must have been quoted.
  */
 final class Sentences {
-    /** The number of the section ahead of the promises, "Terms". */
+    /** The numbers of the sections ahead of the promises. "The public face" between them has FaceTests. */
+    static final int WHAT_IT_IS = -1;
     static final int TERMS = 0;
     private static final int PROMISES = 44;
-    private static final Pattern BOUNDARY = Pattern.compile("NONE|-2|-3|at most|at first|none|of several|nobody");
+    private static final Pattern WORD = Pattern.compile("-?\\w+");
+    // What only heads a part of the document, and asks for nothing.
+    private static final Pattern HEADING = Pattern.compile("==== I{1,2}\\.");
 
     private final Map<Integer, String> sections = new TreeMap<>();
     private final Map<Integer, boolean[]> quoted = new TreeMap<>();
@@ -29,14 +32,21 @@ final class Sentences {
 
     Sentences(Path document) {
         String text = read(document).replace("```text", " ").replace("```", " ");
-        for (int promise = TERMS; promise <= PROMISES; promise++) {
-            String begin = promise == TERMS ? "## Terms" : "## Promise " + promise + ":";
-            int at = text.indexOf("\n", text.indexOf(begin));
+        for (int promise = WHAT_IT_IS; promise <= PROMISES; promise++) {
+            int at = text.indexOf("\n", text.indexOf("## " + headOf(promise)));
             int behind = text.indexOf("\n## ", at);
             String body = text.substring(at, behind).replaceAll("\\s+", " ").trim().replaceFirst("^`[^`]*`: ", "");
+            body = HEADING.matcher(body).replaceAll("").trim();
             sections.put(promise, body);
             quoted.put(promise, new boolean[body.length()]);
         }
+    }
+
+    private static String headOf(int promise) {
+        if (promise == WHAT_IT_IS) {
+            return "What it is";
+        }
+        return promise == TERMS ? "Terms" : "Promise " + promise + ":";
     }
 
     private static String read(Path document) {
@@ -72,18 +82,20 @@ final class Sentences {
 
     void wrong(String what) {
         wrong++;
-        System.out.println((section == TERMS ? "Terms" : "promise " + section) + ", \"" + words + "\": " + what);
+        System.out.println(headOf(section) + " \"" + words + "\": " + what);
     }
 
-    /** Whether all was as due, and no boundary was left out. */
+    /** Whether all was as due, and no word was left out. */
     boolean end() {
-        for (int promise = TERMS; promise <= PROMISES; promise++) {
+        for (int promise : sections.keySet()) {
             section = promise;
-            Matcher boundary = BOUNDARY.matcher(sections.get(promise));
-            while (boundary.find()) {
-                int at = boundary.start();
-                words = sections.get(promise).substring(Math.max(0, at - 30), Math.min(sections.get(promise).length(), at + 30));
-                check(quoted.get(promise)[at], "no test quotes this '" + boundary.group() + "'");
+            String text = sections.get(promise);
+            Matcher word = WORD.matcher(text);
+            while (word.find()) {
+                words = text.substring(Math.max(0, word.start() - 30), Math.min(text.length(), word.end() + 30));
+                if (!quoted.get(promise)[word.start()]) {
+                    wrong("no test quotes this '" + word.group() + "'");
+                }
             }
         }
         System.out.println(tests + " sentences, " + checks + " answers: " + (wrong == 0 ? "all as due" : wrong + " not as due"));

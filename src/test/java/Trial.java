@@ -154,6 +154,21 @@ final class Trial {
         return sameAs(before, new Call(name, args) + " and undo()");
     }
 
+    /** As due(), on a copy on which it is the last call that is promised; those between leave all as it was. */
+    Trial dueAsLast(long want, String name, int... args) {
+        Call[] acts = {new Call("away", 0, 0, 999), new Call("request", 0, 0, 0, 1, 0), new Call("set", 0, 98), new Call("foe", 15, 9)};
+        Trial copy = copy();
+        for (int turn = 0; copy.calls.size() + 2 < MOST_CALLS; turn++) {
+            copy.make(acts[turn % acts.length]);
+            copy.call("undo");
+        }
+        while (copy.calls.size() + 1 < MOST_CALLS) {
+            copy.call("busiest", 0);
+        }
+        copy.due(want, name, args);
+        return this;
+    }
+
     /** Among these numbers low and high are the outermost that do; those behind them, and the far ones, are refused. */
     Trial range(int place, int low, int high, String name, int... args) {
         does(place, low, name, args);
