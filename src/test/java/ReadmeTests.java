@@ -9,7 +9,6 @@ import java.util.List;
 import java.util.regex.Matcher;
 import java.util.regex.Pattern;
 import java.util.stream.Stream;
-import javax.tools.ToolProvider;
 
 /**
  * The examples of README.md answer what stands behind them. All of them become one program, in which each call's
@@ -100,9 +99,9 @@ public final class ReadmeTests {
 
     private static void run(Path folder, String program) throws Exception {
         Path source = Files.writeString(folder.resolve("Readme.java"), program);
-        int refused = ToolProvider.getSystemJavaCompiler().run(null, null, null, "-cp", System.getProperty("java.class.path"),
-                "-d", folder.toString(), source.toString());
-        if (refused != 0) {
+        Process javac = new ProcessBuilder("javac", "-cp", System.getProperty("java.class.path"), "-d", folder.toString(), source.toString())
+                .inheritIO().start();
+        if (javac.waitFor() != 0) {
             wrong("its examples do not compile");
             return;
         }
